@@ -647,11 +647,13 @@ public final class CurveSuite {
         }
 
         void multiply(long[] to, long[] a, long[] b) {
-            Arrays.fill(wide, 0L);
-            for (int i = 0; i < limbs; i++) {
+            long[] columns = wide;
+            int n = limbs;
+            Arrays.fill(columns, 0L);
+            for (int i = 0; i < n; i++) {
                 long limb = a[i];
-                for (int j = 0; j < limbs; j++) {
-                    wide[i + j] += limb * b[j];
+                for (int j = 0; j < n; j++) {
+                    columns[i + j] += limb * b[j];
                 }
             }
             fold();
@@ -660,13 +662,15 @@ public final class CurveSuite {
         }
 
         void square(long[] to, long[] x) {
-            Arrays.fill(wide, 0L);
-            for (int i = 0; i < limbs; i++) {
+            long[] columns = wide;
+            int n = limbs;
+            Arrays.fill(columns, 0L);
+            for (int i = 0; i < n; i++) {
                 long limb = x[i];
-                wide[2 * i] += limb * limb;
+                columns[2 * i] += limb * limb;
                 long twice = 2 * limb;
-                for (int j = i + 1; j < limbs; j++) {
-                    wide[i + j] += twice * x[j];
+                for (int j = i + 1; j < n; j++) {
+                    columns[i + j] += twice * x[j];
                 }
             }
             fold();
@@ -721,8 +725,8 @@ public final class CurveSuite {
                 square(power, power);
                 multiply(power, power, x);
             }
-            int zeros = is448 ? 223 : 2;
-            for (int i = 0; i < zeros; i++) {
+            int behind = is448 ? 223 : 2;
+            for (int i = 0; i < behind; i++) {
                 square(power, power);
             }
             multiply(to, power, kept);

@@ -118,6 +118,8 @@ public final class PointsTest {
                 place(x, ref, other, 1);
                 x.add(2, 0, 1, false);
                 Check.same("a sum", ref.encode(ref.add(one, other)), Check.code(x, 2));
+                x.add(2, 0, 2, true);
+                Check.same("a point less a sum", ref.encode(ref.negate(other)), Check.code(x, 2));
                 x.add(2, 0, 1, true);
                 Check.same("a difference", ref.encode(ref.add(one, ref.negate(other))), Check.code(x, 2));
                 Check.same("its curve", curve, x.order(2, 2));

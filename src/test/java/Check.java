@@ -50,6 +50,20 @@ final class Check {
         fails(what, IllegalArgumentException.class, call);
     }
 
+    static void outOfBounds(String what, Runnable call) {
+        fails(what, IndexOutOfBoundsException.class, call);
+    }
+
+    static void wrongState(String what, Runnable call) {
+        fails(what, IllegalStateException.class, call);
+    }
+
+    /** The first number outside a range on each side, some that a narrower type would take for one inside, the ends of int. */
+    static int[] outside(int lowest, int highest) {
+        return new int[] {lowest - 1, highest + 1, lowest - 256, highest + 256, highest + 65536,
+            Integer.MIN_VALUE, Integer.MAX_VALUE};
+    }
+
     private static void report(String what, String due, String got) {
         wrong++;
         System.out.println(what + ": due is " + due + ", got " + got);
@@ -68,6 +82,12 @@ final class Check {
 
     static String hex(byte[] bytes) {
         return HexFormat.of().formatHex(bytes);
+    }
+
+    static byte[] filled(int n, int value) {
+        byte[] bytes = new byte[n];
+        Arrays.fill(bytes, (byte) value);
+        return bytes;
     }
 
     static byte[] random(Random random, int n) {

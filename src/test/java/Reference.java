@@ -24,22 +24,23 @@ final class Reference {
     final BigInteger a;
     final BigInteger d;
     final P base;
+    private P small;
 
     Reference(int curve) {
         this.curve = curve;
-        boolean small = curve == 0;
-        bytes = small ? 32 : 57;
-        agreementBytes = small ? 32 : 56;
-        cofactor = small ? 8 : 4;
-        p = small ? TWO.pow(255).subtract(BigInteger.valueOf(19))
+        boolean is25519 = curve == 0;
+        bytes = is25519 ? 32 : 57;
+        agreementBytes = is25519 ? 32 : 56;
+        cofactor = is25519 ? 8 : 4;
+        p = is25519 ? TWO.pow(255).subtract(BigInteger.valueOf(19))
                 : TWO.pow(448).subtract(TWO.pow(224)).subtract(ONE);
-        order = small ? TWO.pow(252).add(new BigInteger("27742317777372353535851937790883648493"))
+        order = is25519 ? TWO.pow(252).add(new BigInteger("27742317777372353535851937790883648493"))
                 : TWO.pow(446).subtract(new BigInteger(
                         "13818066809895115352007386748515426880336692474882178609894547503885"));
-        a = small ? p.subtract(ONE) : ONE;
-        d = small ? BigInteger.valueOf(-121665).multiply(BigInteger.valueOf(121666).modInverse(p)).mod(p)
+        a = is25519 ? p.subtract(ONE) : ONE;
+        d = is25519 ? BigInteger.valueOf(-121665).multiply(BigInteger.valueOf(121666).modInverse(p)).mod(p)
                 : BigInteger.valueOf(-39081).mod(p);
-        base = small ? new P(
+        base = is25519 ? new P(
                 new BigInteger("15112221349535400772501151409588531511454012693041857206046113283949847762202"),
                 new BigInteger("46316835694926478169428394003475163141307993866256225615783033603165251855960"))
                 : new P(
@@ -128,34 +129,52 @@ final class Reference {
         return root.multiply(root).mod(p).equals(square) ? root : null;
     }
 
-    /** A generator of the points of small order: found as order times a point, until it is of order c. */
+    /** A generator of the points of small order; sought once, as that takes long. */
     P smallGenerator() {
+        if (small == null) {
+            small = findSmallGenerator();
+        }
+        return small;
+    }
+
+    /** The order times a point, until one is of order c. */
+    private P findSmallGenerator() {
         for (int y = 2; ; y++) {
             P point = decode(lowestFirst(BigInteger.valueOf(y), bytes));
             if (point != null) {
-                P small = times(order, point);
-                if (!times(BigInteger.valueOf(cofactor / 2), small).equals(NEUTRAL)) {
-                    return small;
+                P found = times(order, point);
+                if (!times(BigInteger.valueOf(cofactor / 2), found).equals(NEUTRAL)) {
+                    return found;
                 }
             }
         }
     }
 
-    /** u's of RFC 7748's ladder, with the field's inverse of 0 being 0. */
+    /** RFC 7748's function, with the field's inverse of 0 being 0. */
     byte[] agree(byte[] secret, byte[] key) {
-        byte[] k = Arrays.copyOf(secret, agreementBytes);
         byte[] u = Arrays.copyOf(key, agreementBytes);
+        if (curve == 0) {
+            u[31] &= 127;
+        }
+        return lowestFirst(ladder(agreementNumber(secret), number(u)), agreementBytes);
+    }
+
+    BigInteger agreementNumber(byte[] secret) {
+        byte[] k = Arrays.copyOf(secret, agreementBytes);
         if (curve == 0) {
             k[0] &= (byte) 248;
             k[31] = (byte) (k[31] & 127 | 64);
-            u[31] &= 127;
         } else {
             k[0] &= (byte) 252;
             k[55] |= (byte) 128;
         }
+        return number(k);
+    }
+
+    /** The u of n times a point with the given u, for any n that the ladder's bits hold. */
+    BigInteger ladder(BigInteger n, BigInteger u) {
         BigInteger a24 = BigInteger.valueOf(curve == 0 ? 121665 : 39081);
-        BigInteger n = number(k);
-        BigInteger x1 = number(u).mod(p);
+        BigInteger x1 = u.mod(p);
         BigInteger x2 = ONE;
         BigInteger z2 = BigInteger.ZERO;
         BigInteger x3 = x1;
@@ -180,7 +199,7 @@ final class Reference {
             x3 = bit ? newLowX : newHighX;
             z3 = bit ? newLowZ : newHighZ;
         }
-        return lowestFirst(x2.multiply(z2.modPow(p.subtract(TWO), p)).mod(p), agreementBytes);
+        return x2.multiply(z2.modPow(p.subtract(TWO), p)).mod(p);
     }
 
     byte[] hash(byte[] text, int n) {

@@ -1,10 +1,5 @@
 import java.math.BigInteger;
 import java.security.GeneralSecurityException;
-import java.security.KeyFactory;
-import java.security.Signature;
-import java.security.spec.EdDSAParameterSpec;
-import java.security.spec.EdECPrivateKeySpec;
-import java.security.spec.NamedParameterSpec;
 import java.util.Arrays;
 import java.util.Random;
 
@@ -124,17 +119,6 @@ public final class SignatureTest {
                 + "ad203df7dc7ce360c3cd3696d9d9fab90f00");
     }
 
-    private static byte[] javaSign(int curve, byte[] secret, byte[] message, byte[] context, boolean ph)
-            throws GeneralSecurityException {
-        NamedParameterSpec name = curve == 0 ? NamedParameterSpec.ED25519 : NamedParameterSpec.ED448;
-        Signature signature = Signature.getInstance(name.getName());
-        signature.setParameter(context.length == 0 ? new EdDSAParameterSpec(ph) : new EdDSAParameterSpec(ph, context));
-        byte[] own = Arrays.copyOf(secret, REFERENCES[curve].bytes);
-        signature.initSign(KeyFactory.getInstance(name.getName()).generatePrivate(new EdECPrivateKeySpec(name, own)));
-        signature.update(message);
-        return signature.sign();
-    }
-
     private static void javaAgrees(int curve) throws GeneralSecurityException {
         Random random = new Random(100 + curve);
         for (int i = 0; i < 60; i++) {
@@ -143,7 +127,7 @@ public final class SignatureTest {
             byte[] context = Check.random(random, i % 3 == 0 ? 0 : random.nextInt(65));
             boolean ph = i % 2 == 0;
             byte[] signature = sign(curve, secret, message, context, ph);
-            Check.same("sign, as Java does", javaSign(curve, secret, message, context, ph), signature);
+            Check.same("sign, as Java does", JavaSigner.sign(curve, secret, message, context, ph), signature);
             byte[] key = derive(curve, secret);
             Check.same("derive", REFERENCES[curve].derive(secret), key);
             Check.same("verify of sign", true, verify(curve, signature, key, message, context, ph));
@@ -158,14 +142,14 @@ public final class SignatureTest {
             byte[] message = Check.random(new Random(n), n);
             byte[] context = Check.random(new Random(n), n % 65);
             byte[] signature = sign(curve, secret, message, context, false);
-            Check.same("sign of " + n, javaSign(curve, secret, message, context, false), signature);
+            Check.same("sign of " + n, JavaSigner.sign(curve, secret, message, context, false), signature);
             Check.same("verify of " + n, true, verify(curve, signature, key, message, context, false));
         }
         for (boolean ph : new boolean[] {false, true}) {
             byte[] message = Check.random(new Random(111), 256);
             byte[] context = Check.random(new Random(112), 64);
             byte[] signature = sign(curve, secret, message, context, ph);
-            Check.same("sign of all that fits", javaSign(curve, secret, message, context, ph), signature);
+            Check.same("sign of all that fits", JavaSigner.sign(curve, secret, message, context, ph), signature);
             Check.same("verify of all that fits", true, verify(curve, signature, key, message, context, ph));
         }
     }
@@ -289,7 +273,7 @@ public final class SignatureTest {
     private static void nearlyZero(int curve) throws GeneralSecurityException {
         byte[] zero = new byte[57];
         Check.same("derive of zeros", REFERENCES[curve].derive(zero), derive(curve, zero));
-        Check.same("sign by zeros", javaSign(curve, zero, NONE, NONE, false), sign(curve, zero, NONE, NONE, false));
+        Check.same("sign by zeros", JavaSigner.sign(curve, zero, NONE, NONE, false), sign(curve, zero, NONE, NONE, false));
         CurveSuite x = new CurveSuite();
         Check.same("zeros are codes of points of order 4, and 0 of them is neutral", true, x.verify(curve, false));
     }

@@ -133,6 +133,9 @@ public final class AgreementEdgesTest {
             Check.same("agree with the base point", true, x.agree(curve, true));
             Check.same("the base point's u", due, Check.out(x));
             Check.same("PUBLIC stays", key, Check.register(x, Check.PUBLIC, 57));
+            x.agree(curve, false);
+            x.agree(curve, true);
+            Check.same("the base point's u behind another", due, Check.out(x));
         }
     }
 

@@ -39,6 +39,7 @@ public final class HashTest {
             int n = Integer.parseInt(row[0]);
             checkSha(n, Check.bytes(row[1]));
             checkShake(n, Check.bytes(row[2]));
+            Check.same("the tests' own SHAKE256", Check.bytes(row[2]), Shake.shake256(message(n), 114));
         }
         everyLengthOfSha();
         everyLengthOfShake();
@@ -75,6 +76,9 @@ public final class HashTest {
     }
 
     private static void everyLengthOfShake() {
+        for (int n = 0; n <= 256; n++) {
+            checkShake(n, Shake.shake256(message(n), 114));
+        }
         for (String[] row : DUE) {
             byte[] whole = Check.bytes(row[2]);
             for (int n : new int[] {0, 1, 7, 8, 9, 31, 32, 57, 64, 113, 114}) {

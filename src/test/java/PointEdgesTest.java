@@ -15,9 +15,11 @@ public final class PointEdgesTest {
             signTellsTheX(curve);
             pointTakesTheFirstBytes(curve);
             noPointLeavesThePlace(curve);
+            pointOverASum(curve);
             pointRefused(curve);
             sumsWithTheNeutralOne(curve);
             sumsOfAPointWithItself(curve);
+            sumsOfSums(curve);
             sumsToOneOfTheTwo(curve);
             sumToAPlaceOfTheOtherCurve(curve);
             addRefused(curve);
@@ -187,6 +189,23 @@ public final class PointEdgesTest {
         }
     }
 
+    /** "comes to a place": over a point that was reckoned, of either curve, as over one that came from its code. */
+    private static void pointOverASum(int curve) {
+        for (int held = 0; held < 2; held++) {
+            CurveSuite x = threePoints(held);
+            x.put(Check.SECRET, 0, 11, 1);
+            x.times(1, 0);
+            x.add(0, 0, 1, true);
+            place(x, curve, REFERENCES[curve].base, 0);
+            place(x, curve, REFERENCES[curve].base, 1);
+            Check.same("the point", codeOf(curve, REFERENCES[curve].base), Check.code(x, 0));
+            Check.same("the point", codeOf(curve, REFERENCES[curve].base), Check.code(x, 1));
+            Check.same("is the same", true, x.same(0, 1));
+            x.add(2, 0, 1, false);
+            Check.same("its double", codeOf(curve, threePointsDue(curve)[1]), Check.code(x, 2));
+        }
+    }
+
     /** "IllegalArgumentException: no such curve or place". */
     private static void pointRefused(int curve) {
         CurveSuite x = threePoints(curve);
@@ -249,6 +268,20 @@ public final class PointEdgesTest {
             x.add(2, 0, 1, false);
             Check.same("P and -P", neutralCode(curve), Check.code(x, 2));
         }
+    }
+
+    /** The same of points that were reckoned themselves. */
+    private static void sumsOfSums(int curve) {
+        Reference ref = REFERENCES[curve];
+        CurveSuite x = threePoints(curve);
+        Reference.P[] due = threePointsDue(curve);
+        for (int i = 0; i < 12; i++) {
+            int to = i % 3;
+            int b = (i + 1) % 3;
+            x.add(to, to, b, i % 2 == 0);
+            due[to] = ref.add(due[to], i % 2 == 0 ? ref.negate(due[b]) : due[b]);
+        }
+        checkPlaces("sums of sums", x, curve, due);
     }
 
     /** "comes to a third one": which may be one of the two, or both of them. */

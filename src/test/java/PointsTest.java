@@ -21,6 +21,7 @@ public final class PointsTest {
             samePoints(curve);
             refusals(curve);
         }
+        referenceAgreesWithItself();
         bothCurves();
         stateStays();
         longRun();
@@ -327,6 +328,22 @@ public final class PointsTest {
             Check.same("the base point stays", REFERENCES[curve].encode(REFERENCES[curve].base), Check.code(x, curve));
         }
         Check.same("the product stays", due, Check.code(x, 2));
+    }
+
+    /** Products, as the tests reckon them, against plain sums. */
+    private static void referenceAgreesWithItself() {
+        for (Reference ref : REFERENCES) {
+            for (Reference.P point : new Reference.P[] {ref.base, ref.smallGenerator(), ref.add(ref.base, ref.smallGenerator())}) {
+                Reference.P sum = Reference.NEUTRAL;
+                BigInteger number = BigInteger.ZERO;
+                for (int i = 0; i < 200; i++) {
+                    boolean twice = i % 3 > 0;
+                    sum = ref.add(sum, twice ? sum : point);
+                    number = number.add(twice ? number : BigInteger.ONE);
+                    Check.same("times", true, sum.equals(ref.times(number, point)));
+                }
+            }
+        }
     }
 
     /** Many sums in a row, whose points are never written anew: Fibonacci's numbers times the base point. */

@@ -3,10 +3,7 @@ import java.security.GeneralSecurityException;
 import java.security.MessageDigest;
 import java.util.Arrays;
 
-/**
- * The two curves once more, by BigInteger and affine formulas as plain as can be. Of CurveSuite it
- * uses SHAKE256 alone, which HashTest checks against answers from elsewhere.
- */
+/** The two curves once more, by BigInteger and as plain as can be; it uses nothing of CurveSuite. */
 final class Reference {
     record P(BigInteger x, BigInteger y) {
     }
@@ -79,15 +76,32 @@ final class Reference {
         return new P(point.x.negate().mod(p), point.y);
     }
 
+    /** By doubling and adding, with one common denominator z, so that only the end takes a division. */
     P times(BigInteger n, P point) {
-        P sum = NEUTRAL;
+        BigInteger[] one = {point.x, point.y, ONE};
+        BigInteger[] sum = {BigInteger.ZERO, ONE, ONE};
         for (int i = n.bitLength() - 1; i >= 0; i--) {
-            sum = add(sum, sum);
+            sum = addFractions(sum, sum);
             if (n.testBit(i)) {
-                sum = add(sum, point);
+                sum = addFractions(sum, one);
             }
         }
-        return sum;
+        BigInteger inverse = sum[2].modInverse(p);
+        return new P(sum[0].multiply(inverse).mod(p), sum[1].multiply(inverse).mod(p));
+    }
+
+    /** The formulas of add for x / z and y / z: both of its denominators are z^2 z'^2 with, or less, the product. */
+    private BigInteger[] addFractions(BigInteger[] one, BigInteger[] other) {
+        BigInteger zz = one[2].multiply(other[2]).mod(p);
+        BigInteger square = zz.multiply(zz);
+        BigInteger product = d.multiply(one[0].multiply(other[0]).mod(p)).multiply(one[1].multiply(other[1]).mod(p));
+        BigInteger with = square.add(product).mod(p);
+        BigInteger less = square.subtract(product).mod(p);
+        BigInteger x = one[0].multiply(other[1]).add(one[1].multiply(other[0])).mod(p);
+        BigInteger y = one[1].multiply(other[1]).subtract(a.multiply(one[0].multiply(other[0]).mod(p))).mod(p);
+        return new BigInteger[] {
+            x.multiply(zz).mod(p).multiply(less).mod(p), y.multiply(zz).mod(p).multiply(with).mod(p), with.multiply(less).mod(p),
+        };
     }
 
     byte[] encode(P point) {
@@ -203,13 +217,7 @@ final class Reference {
     }
 
     byte[] hash(byte[] text, int n) {
-        if (curve == 0) {
-            return sha512(text);
-        }
-        CurveSuite x = new CurveSuite();
-        Check.feed(x, false, text);
-        x.hash(true, n);
-        return Check.out(x);
+        return curve == 0 ? sha512(text) : Shake.shake256(text, n);
     }
 
     static byte[] sha512(byte[] text) {

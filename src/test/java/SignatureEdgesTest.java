@@ -14,6 +14,7 @@ public final class SignatureEdgesTest {
             deriveOfLeastAndGreatestSecrets(curve);
             deriveRefused(curve);
             signOfEmptyAndFull(curve);
+            signOfShorterTexts(curve);
             signTakesTheFirstBytes(curve);
             signLooksNotAtPublic(curve);
             signRefused(curve);
@@ -143,6 +144,27 @@ public final class SignatureEdgesTest {
         for (byte[] secret : new byte[][] {new byte[57], Check.filled(57, 255)}) {
             Check.same("sign by a strange secret", JavaSigner.sign(curve, secret, NONE, NONE, false),
                     sign(curve, secret, NONE, NONE, false));
+        }
+    }
+
+    /** The same on one object, where the text before was longer, in another form, or on the other curve. */
+    private static void signOfShorterTexts(int curve) throws GeneralSecurityException {
+        CurveSuite x = Check.suite(someSecret(), null, null);
+        Check.feed(x, false, Check.filled(256, 7));
+        Check.feed(x, true, Check.filled(64, 8));
+        x.sign(curve, false);
+        x.sign(curve, true);
+        x.sign(1 - curve, false);
+        for (int n : new int[] {1, 0}) {
+            for (boolean context : new boolean[] {false, true}) {
+                x.clear(context);
+                Check.feed(x, context, Check.filled(n, 9));
+            }
+            for (boolean ph : new boolean[] {true, false}) {
+                x.sign(curve, ph);
+                byte[] text = Check.filled(n, 9);
+                Check.same("sign of " + n + " bytes", JavaSigner.sign(curve, someSecret(), text, text, ph), Check.out(x));
+            }
         }
     }
 

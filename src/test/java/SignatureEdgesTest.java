@@ -149,20 +149,21 @@ public final class SignatureEdgesTest {
 
     /** The same on one object, where the text before was longer, in another form, or on the other curve. */
     private static void signOfShorterTexts(int curve) throws GeneralSecurityException {
-        CurveSuite x = Check.suite(someSecret(), null, null);
-        Check.feed(x, false, Check.filled(256, 7));
-        Check.feed(x, true, Check.filled(64, 8));
-        x.sign(curve, false);
-        x.sign(curve, true);
-        x.sign(1 - curve, false);
-        for (int n : new int[] {1, 0}) {
-            for (boolean context : new boolean[] {false, true}) {
-                x.clear(context);
-                Check.feed(x, context, Check.filled(n, 9));
-            }
-            for (boolean ph : new boolean[] {true, false}) {
-                x.sign(curve, ph);
+        for (boolean ph : new boolean[] {false, true}) {
+            CurveSuite x = Check.suite(someSecret(), null, null);
+            Check.feed(x, false, Check.filled(256, 7));
+            Check.feed(x, true, Check.filled(64, 8));
+            x.sign(curve, ph);
+            x.sign(curve, !ph);
+            x.sign(1 - curve, ph);
+            for (int n : new int[] {1, 0}) {
                 byte[] text = Check.filled(n, 9);
+                for (boolean context : new boolean[] {false, true}) {
+                    x.clear(context);
+                    Check.feed(x, context, text);
+                }
+                x.sign(curve, !ph);
+                x.sign(curve, ph);
                 Check.same("sign of " + n + " bytes", JavaSigner.sign(curve, someSecret(), text, text, ph), Check.out(x));
             }
         }
